@@ -8,9 +8,12 @@ final class SearchTest {
         "n5kAEsBA2bDABkEB", "n5bABCkBAkCAlDE2", "n5kAEkBEsCD0bECA", "n5bACEtBAEkDAqDC",
         "n6tAEBsBC1sDA0bFDEqCD", "n6bAECtBFEtCABkDAlEF3", "n7kAElBD2lDG3lEF3bGBCqDC",
         "n7bACBbBFEtCAEtDBEkEBkFBbGCBqAF", "n8tAGFsBD1lCG1tEFHbGEBqDE",
-        "n8sAG0kBHlCE3tDBEkEFlFD3lGA3qDCqHEqFEqDH", "n8 iA sBH1 bCBD qAC qHD", "n8 lAB7 sHG0 tDAH"
+        "n8sAG0kBHlCE3tDBEkEFlFD3lGA3qDCqHEqFEqDH",
+        // Here trades go round in a ring: only their number ends them.
+        "n8tAFCtBHEsCG0sDH2lEH1lFE4lGB3lHC4qDAqEAqGAqGCqGDqGEqHAqHDqHG",
+        "n8 iA sBH1 bCBD qAC qHD", "n8 lAB7 sHG0 tDAH"
     };
-    private static final int[] TRADES = {1, 2, 1, 2, 3, 3, 3, 3, 3, 4, 4, 4, 4, 5, 4, 6};
+    private static final int[] TRADES = {1, 2, 1, 2, 3, 3, 3, 3, 3, 4, 4, 4, 4, 5, 4, 6, 20};
     private static final int DRAWN = 250;
 
     private final CellKeys k = new CellKeys();
