@@ -123,6 +123,18 @@ final class Promise01To09Test {
         S.row(k, 0, -1);
     }
 
+    static void p03TellsOfThatRowAndPlace() {
+        CellKeys k = new CellKeys();
+        for (int r = 0; r <= 5; r++) {
+            Due.fill(k, r, 10 * r, 10 * r + 1, 10 * r + 2, 10 * r + 3, 10 * r + 4, 10 * r + 5);
+        }
+        for (int r = 0; r <= 5; r++) {
+            for (int i = 0; i <= 5; i++) {
+                S.tells(k, "lay(" + r + ", " + i + ", -1)", k.lay(r, i, -1), 1, 10 * r + i);
+            }
+        }
+    }
+
     static void p03FirstAndLastPlace() {
         CellKeys k = new CellKeys();
         k.row(5, 60);

@@ -182,6 +182,18 @@ final class Promise10To16Test {
         S.quiet(Sentences.everything(), "fault(2)", 2, o -> o.fault(2));
     }
 
+    static void p10AFaultLeavesNothingBehind() {
+        CellKeys k = new CellKeys();
+        for (String cut : new String[] {"n", "n2k", "n2kA", "n3tAB", "n3lAB", "n3sA", "n2x", ""}) {
+            Due.write(k, 0, cut);
+            S.is("fault of '" + cut + "'", k.fault(0), cut.equals("n2x") ? 2 : cut.length());
+            Due.write(k, 0, " n2 iA ");
+            S.is("fault of a good one behind '" + cut + "'", k.fault(0), N);
+            Due.write(k, 0, "iA");
+            S.is("fault of one without n behind a good one", k.fault(0), 0);
+        }
+    }
+
     static void p10Bad() {
         S.badOutside("fault", 0, 3, t -> o -> o.fault(t));
     }
@@ -265,6 +277,36 @@ final class Promise10To16Test {
         S.is("door(3, 0)", k.door(3, 0), BAD);
         S.is("jail(0)", k.jail(0), 8);
         S.is("quarrels of more cells", k.count(4), 1);
+    }
+
+    static void p11NothingOfATextReadAheadIsLeft() {
+        CellKeys k = new CellKeys();
+        Due.write(k, 0, "n3 qAB qBC tABC iB sCA3");
+        k.fault(0);
+        Due.write(k, 1, "n3 qAC iC q");
+        k.jail(1);
+        Due.write(k, 2, "n3");
+        S.is("jail(2)", k.jail(2), 3);
+        for (int x = 0; x < 3; x++) {
+            S.door(k, x, 0, (x + 1) % 3, N, 0);
+            S.is("foes(" + x + ")", k.foes(x), 0);
+        }
+        k.jail(0);
+        S.is("jail(2) again", k.jail(2), 3);
+        S.is("count(4)", k.count(4), 0);
+        S.is("count(2)", k.count(2), 0);
+        S.is("count(3)", k.count(3), 0);
+        S.is("can(0)", k.can(0), 1);
+    }
+
+    static void p11OfAFullText() {
+        StringBuilder words = new StringBuilder("n8");
+        while (words.length() < 98) {
+            words.append(' ');
+        }
+        CellKeys k = S.jail(words + "iH");
+        S.is("count(0)", k.count(0), 8);
+        S.door(k, 7, 2, N, N, 0);
     }
 
     static void p11AllAreIn() {
@@ -512,6 +554,15 @@ final class Promise10To16Test {
         S.is("quarrel(0, 7, 1) again", k.quarrel(0, 7, 1), 1);
         S.is("quarrel(7, 0, 0)", k.quarrel(7, 0, 0), 1);
         S.is("quarrel(0, 7, 0)", k.quarrel(0, 7, 0), 0);
+    }
+
+    static void p15AnswersOfThoseTwoOnly() {
+        CellKeys k = S.jail("n8 qAC qAH qCH");
+        S.is("quarrel(0, 1, 1)", k.quarrel(0, 1, 1), 0);
+        S.is("quarrel(0, 2, 1)", k.quarrel(0, 2, 1), 1);
+        S.is("quarrel(0, 3, 0)", k.quarrel(0, 3, 0), 0);
+        S.is("quarrel(7, 2, 1)", k.quarrel(7, 2, 1), 1);
+        S.is("quarrel(7, 1, 0)", k.quarrel(7, 1, 0), 0);
     }
 
     static void p15TheTwoQuarrel() {

@@ -120,6 +120,17 @@ final class Promise24To32Test {
         S.refused(N, "order(32, 2)", o -> o.order(32, 2));
     }
 
+    static void p25OneBehindTheOtherOnOneObject() {
+        CellKeys k = S.jail("n2");
+        for (int set : new int[] {3, 1, 2, 3, 0, 1}) {
+            S.is("order(" + set + ", 0)", k.order(set, 0), Integer.bitCount(set));
+        }
+        S.row(k, 0, 0);
+        k.quarrel(0, 1, 1);
+        S.is("order(1, 0), they quarrel", k.order(1, 0), N);
+        S.is("order(0, 0), they quarrel", k.order(0, 0), 0);
+    }
+
     static void p25FromNoneTheEveningStays() {
         CellKeys k = Sentences.everything();
         S.is("order(11, 5)", k.order(11, 5), 2);
@@ -190,6 +201,7 @@ final class Promise24To32Test {
     static void p27TheGreatestWhateverItCosts() {
         most(LINE, 7, 2);
         most(CHAIN, 15, 3);
+        most("n3 sAC0 sBC0 sCA0", 3, 3);
     }
 
     static void p27OfAlikeOnesTheFewestFavours() {
@@ -269,6 +281,18 @@ final class Promise24To32Test {
         ways(SHUT, 7, 0);
         ways(SHUT, 3, 0);
         ways(NOBODY, 1, 0);
+    }
+
+    static void p29OneBehindTheOtherOnOneObject() {
+        CellKeys k = S.jail(CHAIN);
+        int[] sets = {15, 1, 7, 0, 14, 15};
+        int[] dues = {24, 1, 6, 1, 6, 24};
+        for (int i = 0; i < sets.length; i++) {
+            S.is("ways(" + sets[i] + ")", k.ways(sets[i]), dues[i]);
+        }
+        k.quarrel(1, 3, 1);
+        S.is("ways(15), B and D quarrel", k.ways(15), 0);
+        S.is("ways(13), B and D quarrel", k.ways(13), 4);
     }
 
     static void p29Bad() {
@@ -431,6 +455,15 @@ final class Promise24To32Test {
     static void p32ItDoesNotCountAsOut() {
         without("n3 iA iB lCB1", 0, 4, 0);
         without("n3 iA iB lCB2", 0, 3, 4);
+    }
+
+    static void p32OneBehindTheOtherOnOneObject() {
+        CellKeys k = S.jail(LINE);
+        S.tells(k, "without(0)", k.without(0), 3, 6);
+        S.tells(k, "reached()", k.reached(), 4, 3);
+        S.tells(k, "without(2)", k.without(2), 1, 0);
+        S.tells(k, "without(0)", k.without(0), 3, 6);
+        S.tells(k, "least(4)", k.least(4), 2, 7);
     }
 
     static void p32FromNoneWhoeverIsOut() {

@@ -74,6 +74,15 @@ final class Promise33To37Test {
         band("n3 iA kBA qBC", 3, 1);
     }
 
+    static void p33OneBehindTheOtherOnOneObject() {
+        CellKeys k = S.jail(CHAIN);
+        int[] sets = {15, 8, 9, 3, 11, 1, 15};
+        int[] dues = {3, N, 1, N, 2, 0, 3};
+        for (int i = 0; i < sets.length; i++) {
+            S.is("band(" + sets[i] + ")", k.band(sets[i]), dues[i]);
+        }
+    }
+
     static void p33NoneInItIsBad() {
         S.bad("band(0)", o -> o.band(0));
         S.quiet(new CellKeys(), "band(0), no cells", BAD, o -> o.band(0));
@@ -170,6 +179,7 @@ final class Promise33To37Test {
         deals("n3 qAB qAC", 2, 6, 1, 0, 0);
         deals("n4 lAB9 lBA9 lCA9", 2, 81, 1, 0, 0, 0);
         deals("n4 lAB9 lBA9", 2, 72, 1, 0, 0, 0);
+        deals("n3 iA lBA9 lCA9", 2, 4, N, 0, 0);
     }
 
     static void p35OfAnInsideOneNone() {
@@ -180,7 +190,8 @@ final class Promise33To37Test {
     static void p35NoneTheRowStays() {
         S.quiet(dealer("n3"), "deals(3, 0)", 0, o -> o.deals(3, 0));
         S.quiet(dealer("n3"), "deals(3, 5), missing", 0, o -> o.deals(3, 5));
-        S.quiet(dealer("n3 iC"), "deals(1, 1)", 0, o -> o.deals(1, 1));
+        S.quiet(dealer("n3 iA"), "deals(1, 0), A inside", 0, o -> o.deals(1, 0));
+        S.quiet(dealer("n3 iC"), "deals(1, 1), C inside", 0, o -> o.deals(1, 1));
         S.quiet(dealer("n2 iA iB"), "deals(2, 0)", 0, o -> o.deals(2, 0));
     }
 
@@ -190,6 +201,18 @@ final class Promise33To37Test {
         k.row(1, 0);
         k.at(0, 1);
         return k;
+    }
+
+    static void p35OneBehindTheOtherOnOneObject() {
+        CellKeys k = S.jail("n3");
+        S.is("deals(2, 0)", k.deals(2, 0), 4);
+        S.is("deals(1, 1)", k.deals(1, 1), 8);
+        S.is("deals(3, 2)", k.deals(3, 2), 0);
+        S.is("deals(2, 3)", k.deals(2, 3), 4);
+        S.row(k, 0, 1, 2, 0);
+        S.row(k, 1, 1, 0, 0);
+        S.row(k, 3, 1, 2, 0);
+        S.is("rows", k.count(6), 3);
     }
 
     static void p35TheKeysAndTheEveningStay() {
@@ -261,6 +284,13 @@ final class Promise33To37Test {
         k = new CellKeys();
         k.row(0, 0);
         S.is("dealt(0), no cells", k.dealt(0), 1);
+    }
+
+    static void p36TheLastRow() {
+        CellKeys k = S.jail("n3");
+        Due.fill(k, 5, 2, 2, 1);
+        S.is("dealt(5)", k.dealt(5), 1);
+        S.keepers(k, 2, 2, 1);
     }
 
     static void p36InsideOnesAreNotLookedAt() {
@@ -341,6 +371,8 @@ final class Promise33To37Test {
     static void p37OnlyOneOfBothWould() {
         trades("n4 kAC lBA1 kCD kDB", 0, 2, 0, 3, 1);
         trades("n4 kAC kBA lCD1 kDB", 0, 2, 0, 3, 1);
+        trades("n4 kAC lBA1 lCD9 kDB", 0, 2, 0, 3, 1);
+        trades("n4 kAC lBA9 lCD1 kDB", 0, 2, 0, 3, 1);
     }
 
     static void p37NotWhoKeepsTheSecondKey() {

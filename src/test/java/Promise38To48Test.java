@@ -150,6 +150,14 @@ final class Promise38To48Test {
         S.quiet(k, "culprits(99), in and out", N, o -> o.culprits(99));
     }
 
+    static void p40BadIsAheadOfNone() {
+        CellKeys k = S.jail(LINE);
+        k.saw(1, 1);
+        k.saw(1, 0);
+        S.quiet(k, "culprits(-1)", BAD, o -> o.culprits(-1));
+        S.quiet(k, "culprits(100)", BAD, o -> o.culprits(100));
+    }
+
     static void p40WhoeverIsOut() {
         CellKeys k = S.jail(LINE, 0, 1);
         culprits(k, 0, 1, 0);
