@@ -21,7 +21,9 @@ final class LanguageTest {
     public static void main(String[] args) throws Exception {
         face();
         insides();
-        String code = bare(new String(Files.readAllBytes(Paths.get("src/main/java/CellKeys.java"))));
+        String all = new String(Files.readAllBytes(Paths.get("src/main/java/CellKeys.java")));
+        signs(all);
+        String code = bare(all);
         words(code);
         made(code);
         methodSizes(code);
@@ -77,6 +79,11 @@ final class LanguageTest {
                     || Modifier.isFinal(field.getModifiers()));
         }
         D.check(c + " has at most 20 fields", many <= 20);
+    }
+
+    private static void signs(String all) {
+        D.check("signs 1 to 127 alone", all.chars().allMatch(c -> c == '\n' || (c >= ' ' && c <= '~')));
+        D.check("one file, no package", !all.contains("\npackage ") && all.contains("\npublic final class CellKeys {\n"));
     }
 
     /** The code without its comments and its texts. */

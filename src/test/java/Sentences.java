@@ -7,7 +7,8 @@ import java.util.regex.Pattern;
 
 /**
  * Tests of single sentences of the document. Each is a method that is named by the promise's number, as
- * p06NoneAtTheEnd; run() runs all of a class, and a wrong answer is told with that name.
+ * p06NoneAtTheEnd (p00 is ahead of the promises); run() runs all of a class, and a wrong answer is told
+ * with that name.
  */
 final class Sentences {
     static final int NOTHING = 1, BEYOND = 2, UNLIKE = 3, NOUGHT = 4, SIZE = 5;
@@ -46,7 +47,8 @@ final class Sentences {
 
     void run(Class<?> tests) throws Exception {
         for (Method test : testsOf(tests)) {
-            sentence = "Promise " + promiseOf(test) + ", " + test.getName();
+            int promise = promiseOf(test);
+            sentence = (promise == 0 ? "Ahead" : "Promise " + promise) + ", " + test.getName();
             test.invoke(null);
         }
         due.end();
